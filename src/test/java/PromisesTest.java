@@ -242,6 +242,7 @@ final class PromisesTest {
         }
         CHECK.dueThrow("5: a ninth", Check.UNSUPPORTED, () -> x.failing(1, 1, 1, 1));
         CHECK.due("5: told", 8, x.told(2));
+        CHECK.due("5: run with eight", -1, x.run(1, 1));
     }
 
     private static void failingRefuses() {
@@ -266,6 +267,7 @@ final class PromisesTest {
         }
         CHECK.dueThrow("5: share before no room", Check.INDEX, () -> x.failing(0, 2, 0, 1));
         CHECK.dueThrow("5: times before no room", Check.ARGUMENT, () -> x.failing(0, 0, 0, 10));
+        CHECK.due("5: run with eight of a worker that is not there", 0, x.run(1, 1));
     }
 
     private static void failingEndsTheWorker() {
@@ -280,12 +282,15 @@ final class PromisesTest {
         }
     }
 
-    /** Both workers fail at share 0, so the second of them must first have finished share 1. */
+    /**
+     * Both workers fail at share 0, so the second of them must first have finished share 1, for
+     * which there is room only when a failed share's cells are in use no more.
+     */
     private static void failingBringsTheShareToTheEnd() {
         for (long seed : SEEDS) {
             TileShares x = new TileShares(2, 5);
-            x.share(0, 3, 2, 0);
-            x.share(1, 4, 3, 0);
+            x.share(0, 3, 5, 0);
+            x.share(1, 4, 5, 0);
             x.failing(0, 0, 2, 9);
             x.failing(1, 0, 2, 9);
             CHECK.due("5: run", -1, x.run(2, seed));

@@ -36,6 +36,7 @@ final class CourseTest {
         failedShareHasDoneNoStep();
         failedShareFreesItsCells();
         failedShareComesToTheEnd();
+        doesTheStepElse();
         finishedShareFreesCellsAndWorker();
         finishedShareStaysDone();
         endIsAskedBeforeTheFirstTick();
@@ -221,7 +222,7 @@ final class CourseTest {
     }
 
     private static void takesIfThereIsOne() {
-        CHECK.says("it TAKES the first one of the QUEUE, if there is one");
+        CHECK.says("If it has no SHARE: it TAKES the first one of the QUEUE, if there is one");
         for (long seed : Due.SEEDS) {
             TileShares x = new TileShares(1, 5);
             x.share(0, 20, 1, 0);
@@ -311,7 +312,8 @@ final class CourseTest {
     }
 
     private static void waitsForNeedsOfThisStepAlone() {
-        CHECK.says("if for a NEED of step s the other SHARE has not DONE m steps, it WAITS");
+        CHECK.says("If it has one that has DONE s steps: if for a NEED of step s the other SHARE has not DONE m steps,"
+                + " it WAITS");
         for (long seed : Due.SEEDS) {
             TileShares x = new TileShares(3, 10);
             x.share(0, 2, 1, 0);
@@ -435,6 +437,23 @@ final class CourseTest {
                 CHECK.due("order(" + k + ") of " + shares, (k + 1) % shares, x.order(k));
             }
         }
+    }
+
+    private static void doesTheStepElse() {
+        CHECK.says("Else it does the step; when all its STEPS are DONE, the SHARE is FINISHED");
+        TileShares x = new TileShares(2, 5);
+        x.share(0, 20, 1, 0);
+        for (int s = 1; s < 20; s++) {
+            x.free(0);
+            x.need(0, s, 1, 1);
+            CHECK.due("run to step " + s, -2, x.run(1, 1));
+            CHECK.due("steps", s, x.told(7));
+            CHECK.due("it is not finished", 0, x.told(10));
+        }
+        x.free(0);
+        CHECK.due("run to its end", 0, x.run(1, 1));
+        CHECK.due("steps", 21, x.told(7));
+        CHECK.due("it is finished", 0, x.order(0));
     }
 
     private static void finishedShareFreesCellsAndWorker() {

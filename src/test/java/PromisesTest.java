@@ -31,6 +31,7 @@ final class PromisesTest {
         begunIsOfTheLatestRun();
         begunIsCounted();
         waitedIsOfTheLatestRun();
+        waitedIsOfEachPair();
         waitedIsCountedInTicks();
         toldOfTheObject();
         toldOfTheLatestRun();
@@ -447,6 +448,29 @@ final class PromisesTest {
         }
     }
 
+    private static void waitedIsOfEachPair() {
+        CHECK.says("a SHARE waited for another one");
+        for (int pair = 0; pair < 9; pair++) {
+            int share = pair / 3;
+            int other = pair % 3;
+            if (share != other) {
+                TileShares x = new TileShares(3, 5);
+                x.share(other, 20, 1, 0);
+                x.need(share, 0, other, 20);
+                CHECK.due("run", 0, x.run(3, 1));
+                CHECK.dueTrue(share + " waited for " + other, x.waited(share, other) > 0);
+                CHECK.due("no other one waited", x.told(6), x.waited(share, other));
+                x.free(share);
+                CHECK.due("run", 0, x.run(3, 1));
+                CHECK.due(share + " for " + other + " counted anew", 0, x.waited(share, other));
+                x.need(share, 0, other, 20);
+                x.run(3, 1);
+                x.clear();
+                CHECK.due(share + " for " + other + " as at first", 0, x.waited(share, other));
+            }
+        }
+    }
+
     /** One of two workers has share 0, which waits till the other one has done 20 steps of share 1. */
     private static void waitedIsCountedInTicks() {
         CHECK.says("in how many TICKS a SHARE waited for another one");
@@ -491,8 +515,9 @@ final class PromisesTest {
     }
 
     private static void toldOfTheLatestRun() {
-        CHECK.says("of the latest RUN: TICKS (4), IDLE ones (5), those in which a worker WAITED (6), steps that were"
-                + " done (7), the most cells in use (8), workers that live at its end (9), SHARES that were FINISHED (10)");
+        CHECK.says("of the latest RUN: TICKS (4), IDLE ones (5), those in which a worker WAITED (6),"
+                + " steps that were done (7), the most cells in use (8), workers that live at its end (9),"
+                + " SHARES that were FINISHED (10)");
         TileShares x = new TileShares(3, 10);
         x.share(0, 5, 7, 0);
         x.share(1, 1, 8, 0);

@@ -35,7 +35,8 @@ final class TermsTest {
     }
 
     private static void sharesAreOneToSixteen() {
-        CHECK.says("It is made with a number of SHARES, 1 .. 16 (others count as the nearest of these)");
+        CHECK.says("It is made with a number of SHARES, 1 .. 16, and a ROOM of cells, 1 .. 1000"
+                + " (others count as the nearest of these)");
         int[][] rows = {
             {1, 1}, {2, 2}, {15, 15}, {16, 16},
             {0, 1}, {-1, 1}, {Due.FAR[0], 1}, {17, 16}, {18, 16}, {Due.FAR[1], 16},

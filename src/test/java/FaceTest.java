@@ -3,6 +3,7 @@ import java.lang.reflect.Field;
 import java.lang.reflect.Method;
 import java.lang.reflect.Modifier;
 import java.util.Arrays;
+import java.util.Set;
 import java.util.TreeSet;
 import java.util.stream.Collectors;
 
@@ -26,19 +27,43 @@ final class FaceTest {
         "public int told(int)",
         "public void clear()",
     };
+    private static final Set<String> FACE_NAMES = Arrays.stream(TileShares.class.getMethods())
+            .filter(method -> method.getDeclaringClass() == TileShares.class)
+            .map(Method::getName).collect(Collectors.toSet());
+
+    private static final Check CHECK = new Check();
 
     public static void main(String[] args) {
-        Check check = new Check();
-        check.dueText("the class", "public final", Modifier.toString(TileShares.class.getModifiers()));
-        check.due("NONE", -1, TileShares.NONE);
-        check.dueText("the face", String.join("\n", new TreeSet<>(Arrays.asList(FACE))), visibleMembers());
+        CHECK.dueText("the class", "public final", Modifier.toString(TileShares.class.getModifiers()));
+        CHECK.due("NONE", -1, TileShares.NONE);
+        CHECK.dueText("the face", String.join("\n", new TreeSet<>(Arrays.asList(FACE))), visibleMembers());
+        staticFieldsAreFinal(TileShares.class);
         for (Class<?> inside : TileShares.class.getDeclaredClasses()) {
             int modifiers = inside.getModifiers();
-            check.dueText(inside.getSimpleName() + " is static and not public", "true",
-                    String.valueOf(Modifier.isStatic(modifiers)
-                            && !Modifier.isPublic(modifiers) && !Modifier.isProtected(modifiers)));
+            CHECK.dueTrue(inside.getSimpleName() + " is static and not public", Modifier.isStatic(modifiers)
+                    && !Modifier.isPublic(modifiers) && !Modifier.isProtected(modifiers));
+            staticFieldsAreFinal(inside);
+            methodsHaveNamesOfTheirOwn(inside);
         }
-        check.close("FaceTest");
+        methodsHaveNamesOfTheirOwn(TileShares.class);
+        CHECK.close("FaceTest");
+    }
+
+    private static void staticFieldsAreFinal(Class<?> type) {
+        for (Field field : type.getDeclaredFields()) {
+            int modifiers = field.getModifiers();
+            CHECK.dueTrue(field.getName() + " is final if it is static",
+                    !Modifier.isStatic(modifiers) || Modifier.isFinal(modifiers));
+        }
+    }
+
+    /** LANGUAGE.md, rule 1: none but a call of the face bears its name. */
+    private static void methodsHaveNamesOfTheirOwn(Class<?> type) {
+        for (Method method : type.getDeclaredMethods()) {
+            boolean isOfTheFace = type == TileShares.class && Modifier.isPublic(method.getModifiers());
+            CHECK.dueTrue(method.getName() + " is no name of the face",
+                    isOfTheFace || !FACE_NAMES.contains(method.getName()));
+        }
     }
 
     private static String visibleMembers() {

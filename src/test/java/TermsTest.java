@@ -29,8 +29,6 @@ final class TermsTest {
         valueWrapsAround();
         valueOfNeedsWrapsAround();
         valueShiftsZeroIn();
-        valueIsTheSameInAnyOrder();
-        answersToTheLastCall();
         CHECK.close("TermsTest");
     }
 
@@ -333,45 +331,5 @@ final class TermsTest {
         CHECK.due("run", 0, x.run(1, 1));
         CHECK.due("of 64 bits that are 1, the upper 29 stay", -(1L << 35), x.at(0));
         CHECK.due("needs come in before that", Due.behind(1, 0, -(1L << 35)), x.at(1));
-    }
-
-    private static void valueIsTheSameInAnyOrder() {
-        CHECK.says("values are put by the share's number, and are the same in whatever order it went");
-        TileShares x = new TileShares(5, 100);
-        for (int i = 0; i < 5; i++) {
-            x.share(i, 4 + i, 3 * i + 1, -i);
-            if (i > 0) {
-                x.need(i, i, i - 1, i);
-                x.need(i, 2, 0, 3);
-            }
-        }
-        x.failing(1, 2, 3, 1);
-        x.failing(2, 4, 0, 1);
-        x.run(1, 0);
-        String values = valuesOf(x);
-        for (long seed : Due.SEEDS) {
-            for (int workers = 4; workers <= 16; workers += 3) {
-                CHECK.due("run", 0, x.run(workers, seed));
-                CHECK.dueText("values", values, valuesOf(x));
-            }
-        }
-    }
-
-    private static String valuesOf(TileShares x) {
-        StringBuilder text = new StringBuilder();
-        for (int i = 0; i < 5; i++) {
-            text.append(x.at(i)).append(' ');
-        }
-        return text.toString();
-    }
-
-    private static void answersToTheLastCall() {
-        CHECK.says("An object is used for at most 512 calls after it has been made");
-        TileShares x = new TileShares(16, 1000);
-        for (int call = 1; call <= 510; call++) {
-            CHECK.due("run as call " + call, 0, x.run(1 + call % 16, call));
-        }
-        CHECK.due("told as call 511", 16, x.told(11));
-        CHECK.due("at as call 512", Due.behind(15, 0), x.at(15));
     }
 }
